@@ -16,6 +16,7 @@ final class HoursTest {
         row();
         fewest();
         peace();
+        peaceOfLaterHours();
         due.end();
     }
 
@@ -223,6 +224,11 @@ final class HoursTest {
         due.is("most behind one who quarrels", z.most(1), 4);
         due.is("most behind one who quarrels: row", z.row(1, 0), 1);
         due.is("most behind one who quarrels", z.most(2), 8);
+        WellMoods late = Due.well("pr9,sr2");
+        late.quarrel(0, 1, true);
+        late.draw(0);
+        late.draw(1);
+        due.is("most behind none: whoever drew ahead of that", late.most(2), 5);
     }
 
     private static void row() {
@@ -292,5 +298,32 @@ final class HoursTest {
         z.quarrel(0, 1, true);
         z.draw(2);
         due.is("peace: with who drew ahead", z.peace(), 2);
+    }
+
+    /** All of them drew, one behind the other, and quarrel with all: each rests 4. */
+    private static WellMoods tired(String folk) {
+        WellMoods x = Due.well(folk);
+        for (int one = 0; one < x.is(6); one++) {
+            x.draw(one);
+        }
+        for (int a = 0; a < x.is(6); a++) {
+            for (int b = a + 1; b < x.is(6); b++) {
+                x.quarrel(a, b, true);
+            }
+        }
+        return x;
+    }
+
+    private static void peaceOfLaterHours() {
+        WellMoods x = tired("sr4,sr4");
+        due.is("peace: most in 3 as it is", x.most(3), 5);
+        due.is("peace: most in 4 as it is", x.most(4), 5);
+        due.is("peace: most in 5 as it is", x.most(5), 10);
+        due.is("peace: in 4 hours", x.peace(), 1);
+        WellMoods y = tired("sr4,sr4,sr4");
+        due.is("peace: most as it is", y.most(4), 10);
+        due.is("peace: of one pair alone no more", y.peace(), WellMoods.NONE);
+        y.quarrel(0, 1, false);
+        due.is("peace: of the second pair more", y.peace(), 12);
     }
 }

@@ -190,9 +190,10 @@ final class WhatWasTest {
         Due.village(x, "m-1r4");
         x.folk(2, 2, 3);
         x.set(0, 9);
-        x.set(1, 1);
+        x.set(1, 70);
         x.set(2, 0);
-        x.drawn(9);
+        x.drawn(2);
+        x.draw(x.folk(1, 0, 1));
         Due.type(x, "0");
         due.is("restore", x.restore(), 1);
         int[] at = {0, 300 - 5 + 5 + 5, 5, 5, 0, 2, 3, 3, 0};

@@ -96,10 +96,11 @@ abstract class Bounds {
     }
 
     private static void alike(WellMoods with, WellMoods without) {
-        List<Long> changed = later(with);
-        List<Long> due = later(without);
-        for (int i = 0; i < due.size(); i++) {
-            due("a later call, the " + i + "-th,", changed.get(i), due.get(i));
+        List<Long> got = later(with);
+        List<Long> want = later(without);
+        due("how many later answers", got.size(), want.size());
+        for (int i = 0; i < Math.min(got.size(), want.size()); i++) {
+            due("a later call, the " + i + "-th,", got.get(i), want.get(i));
         }
     }
 

@@ -503,6 +503,10 @@ final class HoursBoundsTest extends Bounds {
         refused(village("sr2,sr2"), x -> x.peace(), NONE);
     }
 
+    static void p17_noneQuarrelAndMostIs0_isNone() {
+        refused(village("v,v"), x -> x.peace(), NONE);
+    }
+
     static void p17_noMoreThanAsItIs_isNone() {
         refused(foes("s,s"), x -> x.peace(), NONE);
         refused(foes("v,v"), x -> x.peace(), NONE);

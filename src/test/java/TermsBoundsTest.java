@@ -7,7 +7,7 @@ final class TermsBoundsTest extends Bounds {
     // ---- refusals
 
     static void terms_refusals_haveTheirNumbers() {
-        int[] all = {WellMoods.BAD, WellMoods.NOT, WellMoods.FULL, WellMoods.NONE, WellMoods.NULL, WellMoods.CAST, WellMoods.INDEX, WellMoods.SIZE};
+        int[] all = {BAD, NOT, FULL, NONE, NULL, CAST, INDEX, SIZE};
         int[] want = {-1, -2, -3, -4, -11, -12, -13, -14};
         for (int i = 0; i < want.length; i++) {
             due("the " + i + "-th", all[i], want[i]);

@@ -615,6 +615,15 @@ final class WhatWasBoundsTest extends Bounds {
         due("the new one", x.drop(3), 5);
     }
 
+    static void p25_itemsOfSheetsStay() {
+        WellMoods x = Due.well("p");
+        fill(x, 0, 0, 0, 4);
+        x.image();
+        x.item(0, 0, 1, 5);
+        x.restore();
+        due(x.fit(0, 0, 0, 1), 1 << 10);
+    }
+
     static void p25_theTapeStays() {
         WellMoods x = after(Bounds::settled);
         Due.type(x, "s,p");
